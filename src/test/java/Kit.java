@@ -1,0 +1,160 @@
+import java.util.ArrayList;
+import java.util.List;
+
+/** What the tests share: counting wrong answers, and feeding and typing whole texts. */
+final class Kit {
+    private final String name;
+    private int answers;
+    private int wrong;
+
+    Kit(String name) {
+        this.name = name;
+    }
+
+    void due(String call, long got, long want) {
+        answers++;
+        if (got != want) {
+            wrong++;
+            System.out.println(name + ": " + call + " answered " + got + ", due is " + want);
+        }
+    }
+
+    void due(String call, String got, String want) {
+        answers++;
+        if (!got.equals(want)) {
+            wrong++;
+            System.out.println(name + ": " + call + " answered " + got + ", due is " + want);
+        }
+    }
+
+    void dueArgumentFault(String call, Runnable run) {
+        due(call, thrownBy(run), "IllegalArgumentException");
+    }
+
+    void dueStateFault(String call, Runnable run) {
+        due(call, thrownBy(run), "IllegalStateException");
+    }
+
+    private static String thrownBy(Runnable run) {
+        try {
+            run.run();
+            return "nothing";
+        } catch (RuntimeException e) {
+            return e.getClass().getSimpleName();
+        }
+    }
+
+    void end() {
+        System.out.println(name + ": " + answers + " answers, " + wrong + " wrong");
+        if (wrong != 0 || answers == 0) {
+            System.exit(1);
+        }
+    }
+
+    static int four(String text, int from) {
+        int number = 0;
+        for (int i = 0; i < 4; i++) {
+            number = number << 8 | (from + i < text.length() ? text.charAt(from + i) : 0);
+        }
+        return number;
+    }
+
+    /** Puts the text in the place of all BYTES. */
+    static void feed(CatalogQuery x, String text) {
+        x.cut(0);
+        feedMore(x, text);
+    }
+
+    static void feedMore(CatalogQuery x, String text) {
+        for (int p = 0; p < text.length(); p += 16) {
+            x.feed(Math.min(16, text.length() - p), four(text, p), four(text, p + 4),
+                    four(text, p + 8), four(text, p + 12));
+        }
+    }
+
+    static int load(CatalogQuery x, String text) {
+        feed(x, text);
+        return x.load();
+    }
+
+    /** Puts the text in the place of THE LINE. */
+    static void type(CatalogQuery x, String text) {
+        x.erase();
+        typeMore(x, text);
+    }
+
+    static void typeMore(CatalogQuery x, String text) {
+        for (int p = 0; p < text.length(); p += 20) {
+            x.type(four(text, p), four(text, p + 4), four(text, p + 8), four(text, p + 12),
+                    four(text, p + 16));
+        }
+    }
+
+    static int search(CatalogQuery x, String text) {
+        type(x, text);
+        return x.search();
+    }
+
+    /** The answer of a search and its place, and, where it has no fault, what was found. */
+    static String asked(CatalogQuery x, String text) {
+        int answer = search(x, text);
+        return answer < 0 ? answer + "@" + x.place() : x.place() == -1 ? foundBy(x) : "place!";
+    }
+
+    static String foundBy(CatalogQuery x) {
+        List<String> found = new ArrayList<>();
+        for (int k = 0; x.found(k) != CatalogQuery.NONE && k < 99; k++) {
+            found.add(Integer.toString(x.found(k)));
+        }
+        return String.join(" ", found);
+    }
+
+    static String word(CatalogQuery x, int index, int k) {
+        StringBuilder text = new StringBuilder();
+        for (int i = 0; x.word(index, k, i) != ' ' && i < 999; i++) {
+            text.append(x.word(index, k, i));
+        }
+        return text.toString();
+    }
+
+    /** All WORDS of an INDEX, each with how many RECORDS have it. */
+    static String lexicon(CatalogQuery x, int index) {
+        StringBuilder text = new StringBuilder();
+        for (int k = 0; k < x.words(index); k++) {
+            text.append(k == 0 ? "" : " ").append(word(x, index, k)).append(x.hits(index, k) == 1
+                    ? "" : ":" + x.hits(index, k));
+        }
+        return text.toString();
+    }
+
+    static String octets(CatalogQuery x, int record) {
+        StringBuilder text = new StringBuilder();
+        for (int k = 0; x.octet(record, k) != CatalogQuery.NONE && k < 999; k++) {
+            text.append((char) x.octet(record, k));
+        }
+        return text.toString();
+    }
+
+    /**
+     * A RECORD of FIELDS, each written as its TAG and its contents without 30, $ for 31:
+     * "001x", "24514$aThe fox$btail".
+     */
+    static String marc(String... fields) {
+        return marcLed("nam a", fields);
+    }
+
+    static String marcLed(String five, String... fields) {
+        StringBuilder entries = new StringBuilder();
+        StringBuilder contents = new StringBuilder();
+        for (String field : fields) {
+            String content = field.substring(3).replace('$', '\u001f') + '\u001e';
+            entries.append(field, 0, 3);
+            entries.append(String.format("%04d%05d", content.length(), contents.length()));
+            contents.append(content);
+        }
+        int base = 24 + entries.length() + 1;
+        int length = base + contents.length() + 1;
+        return String.format("%05d", length) + five + "22" + String.format("%05d", base)
+                + "   4500" + entries + '\u001e' + contents + '\u001d';
+    }
+}
