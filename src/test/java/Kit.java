@@ -1,7 +1,10 @@
 import java.util.ArrayList;
 import java.util.List;
 
-/** What the tests share: counting wrong answers, and feeding and typing whole texts. */
+/**
+ * What the tests share: counting wrong answers, and feeding and typing whole texts. No test asks an
+ * object more than 512 times, as what later calls answer is free.
+ */
 final class Kit {
     private final String name;
     private int answers;
@@ -103,16 +106,20 @@ final class Kit {
 
     static String foundBy(CatalogQuery x) {
         List<String> found = new ArrayList<>();
-        for (int k = 0; x.found(k) != CatalogQuery.NONE && k < 99; k++) {
-            found.add(Integer.toString(x.found(k)));
+        int next = x.found(0);
+        for (int k = 1; next != CatalogQuery.NONE && k < 99; k++) {
+            found.add(Integer.toString(next));
+            next = x.found(k);
         }
         return String.join(" ", found);
     }
 
     static String word(CatalogQuery x, int index, int k) {
         StringBuilder text = new StringBuilder();
-        for (int i = 0; x.word(index, k, i) != ' ' && i < 999; i++) {
-            text.append(x.word(index, k, i));
+        char next = x.word(index, k, 0);
+        for (int i = 1; next != ' ' && i < 999; i++) {
+            text.append(next);
+            next = x.word(index, k, i);
         }
         return text.toString();
     }
@@ -120,17 +127,21 @@ final class Kit {
     /** All WORDS of an INDEX, each with how many RECORDS have it. */
     static String lexicon(CatalogQuery x, int index) {
         StringBuilder text = new StringBuilder();
-        for (int k = 0; k < x.words(index); k++) {
-            text.append(k == 0 ? "" : " ").append(word(x, index, k)).append(x.hits(index, k) == 1
-                    ? "" : ":" + x.hits(index, k));
+        int words = x.words(index);
+        for (int k = 0; k < words; k++) {
+            int hits = x.hits(index, k);
+            text.append(k == 0 ? "" : " ").append(word(x, index, k));
+            text.append(hits == 1 ? "" : ":" + hits);
         }
         return text.toString();
     }
 
     static String octets(CatalogQuery x, int record) {
         StringBuilder text = new StringBuilder();
-        for (int k = 0; x.octet(record, k) != CatalogQuery.NONE && k < 999; k++) {
-            text.append((char) x.octet(record, k));
+        int next = x.octet(record, 0);
+        for (int k = 1; next != CatalogQuery.NONE && k < 999; k++) {
+            text.append((char) next);
+            next = x.octet(record, k);
         }
         return text.toString();
     }

@@ -10,8 +10,8 @@ public final class ModelTest {
 
     private static final String[] WORDS = {"fox", "foxes", "Red", "the", "The", "a", "of", "snow",
         "1987", "1990", "19", "87", "12345", "c1990", "ab", "and", "any", "title", "x", "Zoo"};
-    private static final String[] TAGS = {"245", "245", "100", "700", "650", "260", "260", "010",
-        "009", "005", "000", "999", "264"};
+    private static final String[] TAGS = {"245", "245", "245", "100", "700", "650", "260", "260",
+        "010", "009", "000", "999", "264"};
 
     private final Random random;
     private final Kit kit;
@@ -105,9 +105,9 @@ public final class ModelTest {
 
     private String someRecord() {
         List<String> fields = new ArrayList<>();
-        fields.add("001" + pickOf("", "q", "Q", "ab1", "ab2", "ab 3", "x-1", "fox", "The 1987", "z",
-                "y", "w", "v"));
-        for (int i = pick(5); i > 0; i--) {
+        fields.add("001" + pickOf("", "q", "Q", "ab", "x-", "fox", "The 1987 ") + pickOf("", "1",
+                "2", "3", " 3", "44", "z"));
+        for (int i = pick(6); i > 0; i--) {
             StringBuilder field = new StringBuilder(pickOf(TAGS));
             if (field.charAt(1) != '0' || field.charAt(0) != '0') {
                 field.append(pickOf(" ", "0", "1")).append(pickOf(" ", "0", "1", "2", "4", "9"));
@@ -123,8 +123,13 @@ public final class ModelTest {
         return Kit.marcLed(pickOf("nam a", "caz  ", "pqr a"), fields.toArray(new String[0]));
     }
 
-    /** Changes where FAULTS are: any byte, a digit of the directory, or the end. */
+    /** Changes where FAULTS are: any byte, a TAG, a digit of the directory, or the end. */
     private String spoilt(String text) {
+        if (pick(8) == 0 && text.length() > 40) {
+            int entry = 24 + 12 * pick(Math.max(1, (text.indexOf('\u001e') - 24) / 12));
+            return text.substring(0, entry) + pickOf("001", "009", "010", "011", "245")
+                    + text.substring(entry + 3);
+        }
         StringBuilder bytes = new StringBuilder(text.isEmpty() ? "x" : text);
         int length = bytes.length();
         int p = pick(2) == 0 ? pick(length) : pick(Math.min(length, 90));
@@ -179,8 +184,10 @@ public final class ModelTest {
     }
 
     private String someLine() {
-        StringBuilder line = new StringBuilder(someQuery(0));
-        if (pick(3) == 0) {
+        boolean wide = pick(3) == 0;
+        StringBuilder line = new StringBuilder(wide ? pickOf("id any *", "id=*or*", "*", "title any"
+                + " \"f* r* t* a s*\"", "any all *o*", "date >= 0", "id any *not fox") : someQuery(0));
+        if (pick(wide ? 1 : 3) == 0) {
             line.append(pickOf(" sortby ", " sortBy ")).append(pickOf("title", "author", "date",
                     "date", "any", "id", "subject", "titel"));
             line.append(pickOf("", "", "/descending", " / DESCENDING"));
