@@ -373,23 +373,34 @@ public final class CatalogQuery {
         return NONE;
     }
 
+    /** By characters' numbers, a beginning before the longer one. */
+    private static int compareSpans(char[] a, int aFrom, int aTo, char[] b, int bFrom, int bTo) {
+        if (aFrom < 0 || aTo > a.length || bFrom < 0 || bTo > b.length) {
+            return NO_ORDER;
+        }
+        int aLength = aTo - aFrom;
+        int bLength = bTo - bFrom;
+        for (int i = 0; i < aLength && i < bLength; i++) {
+            if (a[aFrom + i] != b[bFrom + i]) {
+                return a[aFrom + i] - b[bFrom + i];
+            }
+        }
+        return aLength - bLength;
+    }
+
     /** Looks through BYTES for the first FAULT, in the document's order. */
     private static final class Inspector {
         private static final int LACKING = -1;
         /** What stands in a LEADER where only one byte can: the other places are not looked at. */
         private static final String LEADER_PATTERN = "-------- -22-----   4500";
 
-        private char[] bytes;
+        private char[] bytes = new char[0];
         private int count;
         private int faultPlace;
         private int entries;
         private int base;
         private int idEnd;
         private int fieldEnd;
-
-        Inspector() {
-            bytes = new char[0];
-        }
 
         int inspect(char[] someBytes, int many) {
             bytes = someBytes;
@@ -689,21 +700,6 @@ public final class CatalogQuery {
             return t != NONE
                     && compareSpans(octets, textStarts[t], textEnds[t], bytes, from, to) == 0;
         }
-    }
-
-    /** By characters' numbers, a beginning before the longer one. */
-    private static int compareSpans(char[] a, int aFrom, int aTo, char[] b, int bFrom, int bTo) {
-        if (aFrom < 0 || aTo > a.length || bFrom < 0 || bTo > b.length) {
-            return NO_ORDER;
-        }
-        int aLength = aTo - aFrom;
-        int bLength = bTo - bFrom;
-        for (int i = 0; i < aLength && i < bLength; i++) {
-            if (a[aFrom + i] != b[bFrom + i]) {
-                return a[aFrom + i] - b[bFrom + i];
-            }
-        }
-        return aLength - bLength;
     }
 
     /** The WORDS of one text, in small letters; those of a TERM may have signs in them. */

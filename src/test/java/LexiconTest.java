@@ -34,6 +34,10 @@ public final class LexiconTest {
             KIT.due("lexicon of " + index, Kit.lexicon(x, index), due[index]);
         }
         KIT.due("words of any", x.words(0), 17);
+        CatalogQuery signs = new CatalogQuery();
+        Kit.load(signs, Kit.marc("001*a?b", "500  $aA*b ? c@d[e`f{g"));
+        KIT.due("signs belong to no WORD", Kit.lexicon(signs, 0), "a b c d e f g");
+        KIT.due("nor in id", Kit.lexicon(signs, 5), "a b");
         KIT.due("words of id", x.words(5), 3);
     }
 

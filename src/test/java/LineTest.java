@@ -30,8 +30,21 @@ public final class LineTest {
         kit.due("nothing came", x.type(0, 0, 0, 0, 0), 98);
         kit.due("two", x.type(0, 0x00620000, 0, 0, 0x62), 100);
         kit.due("none when full", x.type(0, 0, 0, 0, 0), 100);
-        kit.dueStateFault("one when full", () -> x.type(0, 0, 0, 0, 1));
+        for (int shift = 0; shift < 32; shift += 8) {
+            int one = 0x61 << shift;
+            kit.dueStateFault("one more in a", () -> x.type(one, 0, 0, 0, 0));
+            kit.dueStateFault("one more in b", () -> x.type(0, one, 0, 0, 0));
+            kit.dueStateFault("one more in c", () -> x.type(0, 0, one, 0, 0));
+            kit.dueStateFault("one more in d", () -> x.type(0, 0, 0, one, 0));
+            kit.dueStateFault("one more in e", () -> x.type(0, 0, 0, 0, one));
+        }
         kit.due("search of a hundred", x.search(), 0);
+        Kit.load(x, Kit.marc("001x", "245  $a" + "a".repeat(98) + "bb"));
+        kit.due("search of a word as long", x.search(), 1);
+        kit.due("none is below it", x.below(0), 0);
+        Kit.load(x, Kit.marc("001y", "245  $a" + "a".repeat(98) + "b"));
+        kit.due("its beginning is", x.below(0), 1);
+        kit.due("but not found", x.search(), 1);
         kit.due("THE LINE stays", x.erase(), 100);
     }
 

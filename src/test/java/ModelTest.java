@@ -98,7 +98,7 @@ public final class ModelTest {
     private String someText() {
         StringBuilder text = new StringBuilder();
         for (int i = pick(5); i > 0; i--) {
-            text.append(pickOf(WORDS)).append(pickOf(" ", " ", " ", ", ", ".", "-", ""));
+            text.append(pickOf(WORDS)).append(pickOf(" ", " ", " ", ", ", "*", "?", "-", ""));
         }
         return text.toString();
     }

@@ -69,6 +69,8 @@ public final class SearchTest {
                 "title all \"f* 1*7\"", "1", "title any \"zz f?x\"", "0", "title = \"fo-*\"", "",
                 "title = \"fox* ????\"", "1", "FO*", "0 1", "fox*es", "1", "fo*xes*", "1",
                 "???", "0 4", "????", "1 3", "*x*s", "1", "f*x", "0");
+        due(records(of("245  $afo*x ?ab")), "fo", "0", "x", "0", "\"fo x ab\"", "0", "fox", "",
+                "fo*x", "", "ab", "0", "?ab", "", "title == \"* * *\"", "0");
     }
 
     private static void indexes() {

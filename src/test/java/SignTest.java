@@ -1,3 +1,6 @@
+import java.util.ArrayList;
+import java.util.List;
+
 /** Promises 8 and 9: what search cannot read, and where. */
 public final class SignTest {
     private static final Kit KIT = new Kit("SignTest");
@@ -9,6 +12,7 @@ public final class SignTest {
         brackets();
         sorting();
         indexesAndRelations();
+        everyCharacterCounts();
         faultsChangeNothing();
         KIT.end();
     }
@@ -146,6 +150,38 @@ public final class SignTest {
         for (String[] row : all) {
             KIT.due("[" + row[0] + "]", Kit.asked(loaded(), row[0]), row[1]);
         }
+    }
+
+    /** A word of the language with one character changed, lacking or more is another NAME. */
+    private static void everyCharacterCounts() {
+        for (String word : new String[] {"and", "or", "not", "any", "all", "adj", "exact"}) {
+            for (String other : spoilt(word)) {
+                sign("title " + other + " fox", 6);
+            }
+        }
+        for (String other : spoilt("sortby")) {
+            sign("fox " + other + " title", 4);
+        }
+        for (String other : spoilt("descending")) {
+            sign("fox sortby title/" + other, 17);
+        }
+        for (String word : new String[] {"any", "title", "author", "subject", "date", "id"}) {
+            for (String other : spoilt(word)) {
+                KIT.due(other, Kit.asked(loaded(), "fox or " + other + " = x"), "-3@7");
+                KIT.due(other, Kit.asked(loaded(), "fox sortby " + other), "-3@11");
+            }
+        }
+    }
+
+    private static List<String> spoilt(String word) {
+        List<String> all = new ArrayList<>(List.of(word + "x", "x" + word));
+        for (int p = 0; p < word.length(); p++) {
+            all.add(word.substring(0, p) + "x" + word.substring(p + 1));
+            all.add(word.substring(0, p) + (char) (word.charAt(p) + 128) + word.substring(p + 1));
+            all.add(word.substring(0, p) + word.substring(p + 1));
+        }
+        all.remove(word);
+        return all;
     }
 
     private static void faultsChangeNothing() {
