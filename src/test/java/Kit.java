@@ -1,3 +1,6 @@
+import java.io.IOException;
+import java.nio.file.Files;
+import java.nio.file.Path;
 import java.util.ArrayList;
 import java.util.List;
 
@@ -6,28 +9,68 @@ import java.util.List;
  * object more than 512 times, as what later calls answer is free.
  */
 final class Kit {
+    private static final Path DOCUMENT = Path.of(System.getProperty("doc", "../shared/DOC.md"));
+
+    private static final int WHAT_LENGTH = 1;
+
     private final String name;
     private int answers;
     private int wrong;
+    private String document = "";
+    private String sentence = "";
+    private int sentences;
+    private int answersBefore;
 
     Kit(String name) {
         this.name = name;
     }
 
     void due(String call, long got, long want) {
-        answers++;
-        if (got != want) {
-            wrong++;
-            System.out.println(name + ": " + call + " answered " + got + ", due is " + want);
-        }
+        due(call, Long.toString(got), Long.toString(want));
     }
 
     void due(String call, String got, String want) {
         answers++;
         if (!got.equals(want)) {
-            wrong++;
-            System.out.println(name + ": " + call + " answered " + got + ", due is " + want);
+            complain(call + " answered " + got + ", due is " + want);
         }
+    }
+
+    private void complain(String what) {
+        wrong++;
+        System.out.println(name + ": " + what + (sentence.isEmpty() ? "" : " <" + sentence + ">"));
+    }
+
+    /**
+     * The answers that follow belong to these words of the document. That they stand there is
+     * looked up, so a test cannot go on quoting what the document no longer says.
+     */
+    void sentence(String words) {
+        endSentence();
+        sentence = words;
+        sentences++;
+        if (!document().contains(words)) {
+            complain("the document does not say this");
+        }
+    }
+
+    private void endSentence() {
+        if (!sentence.isEmpty() && answers == answersBefore) {
+            complain("nothing was asked");
+        }
+        answersBefore = answers;
+        sentence = "";
+    }
+
+    private String document() {
+        if (document.isEmpty()) {
+            try {
+                document = Files.readString(DOCUMENT).replaceAll("\\s+", " ");
+            } catch (IOException e) {
+                complain("there is no document at " + DOCUMENT);
+            }
+        }
+        return document;
     }
 
     void dueArgumentFault(String call, Runnable run) {
@@ -48,10 +91,41 @@ final class Kit {
     }
 
     void end() {
-        System.out.println(name + ": " + answers + " answers, " + wrong + " wrong");
+        endSentence();
+        System.out.println(name + ": " + answers + " answers"
+                + (sentences == 0 ? "" : " to " + sentences + " sentences") + ", " + wrong
+                + " wrong");
         if (wrong != 0 || answers == 0) {
             System.exit(1);
         }
+    }
+
+    /** Refused with IllegalArgumentException, and nothing that can be asked for is changed. */
+    void refusedArgument(String call, CatalogQuery x, Runnable run) {
+        String before = state(x);
+        dueArgumentFault(call, run);
+        due("the state after " + call, state(x), before);
+    }
+
+    /** Refused with IllegalStateException, and nothing that can be asked for is changed. */
+    void refusedState(String call, CatalogQuery x, Runnable run) {
+        String before = state(x);
+        dueStateFault(call, run);
+        due("the state after " + call, state(x), before);
+    }
+
+    /** What can be asked for without changing it, but for each byte and word: some 25 calls. */
+    static String state(CatalogQuery x) {
+        StringBuilder all = new StringBuilder();
+        all.append(x.feed(0, 0, 0, 0, 0)).append(" BYTES, ").append(x.type(0, 0, 0, 0, 0));
+        all.append(" characters, place ").append(x.place()).append(", found ").append(foundBy(x));
+        for (int record = 0; record < 10; record++) {
+            all.append(", ").append(x.record(record, WHAT_LENGTH));
+        }
+        for (int index = 0; index < 6; index++) {
+            all.append("; ").append(x.words(index));
+        }
+        return all.toString();
     }
 
     static int four(String text, int from) {
@@ -167,5 +241,18 @@ final class Kit {
         int length = base + contents.length() + 1;
         return String.format("%05d", length) + five + "22" + String.format("%05d", base)
                 + "   4500" + entries + '\u001e' + contents + '\u001d';
+    }
+
+    static String put(String text, int p, String other) {
+        return text.substring(0, p) + other + text.substring(p + other.length());
+    }
+
+    static String put(String text, int p, char other) {
+        return put(text, p, String.valueOf(other));
+    }
+
+    /** The same bytes with the RECORD's length made right. */
+    static String sized(String text) {
+        return String.format("%05d", text.length()) + text.substring(5);
     }
 }

@@ -27,19 +27,6 @@ public final class LoadTest {
         KIT.due("BYTES stay: " + what, x.cut(0), bytes.length());
     }
 
-    private static String put(String text, int p, String other) {
-        return text.substring(0, p) + other + text.substring(p + other.length());
-    }
-
-    private static String put(String text, int p, char other) {
-        return put(text, p, String.valueOf(other));
-    }
-
-    /** As put, with the RECORD's length made right again. */
-    private static String sized(String text) {
-        return String.format("%05d", text.length()) + text.substring(5);
-    }
-
     private static void leader() {
         String[] can = new String[24];
         for (int p = 0; p < 24; p++) {
@@ -63,12 +50,12 @@ public final class LoadTest {
             for (char c = 0; c < 256; c++) {
                 boolean fits = can[p].indexOf(c) >= 0;
                 CatalogQuery x = new CatalogQuery();
-                int answer = Kit.load(x, put(GOOD, p, c));
+                int answer = Kit.load(x, Kit.put(GOOD, p, c));
                 boolean isForm = answer == CatalogQuery.FORM && x.place() == p;
                 KIT.due("LEADER " + p + " with " + (int) c, isForm ? 1 : 0, fits ? 0 : 1);
             }
         }
-        due("two wrong bytes", put(put(GOOD, 9, "b"), 20, "x"), CatalogQuery.FORM, 9);
+        due("two wrong bytes", Kit.put(Kit.put(GOOD, 9, "b"), 20, "x"), CatalogQuery.FORM, 9);
         for (String five : new String[] {"aaa  ", "czz a", "dbc  ", "pxy a"}) {
             due("LEADER " + five, Kit.marcLed(five, "001x"), 0, CatalogQuery.NONE);
         }
@@ -80,58 +67,58 @@ public final class LoadTest {
         }
         for (int n = 24; n < GOOD.length(); n++) {
             due(n + " BYTES", GOOD.substring(0, n), CatalogQuery.LENGTH, 0);
-            due(n + " BYTES, sized", sized(GOOD.substring(0, n)), CatalogQuery.FORM, n);
+            due(n + " BYTES, sized", Kit.sized(GOOD.substring(0, n)), CatalogQuery.FORM, n);
         }
-        due("a wrong byte before one lacks", put(GOOD, 6, "X").substring(0, 9), CatalogQuery.FORM,
-                6);
+        due("a wrong byte before one lacks", Kit.put(GOOD, 6, "X").substring(0, 9),
+                CatalogQuery.FORM, 6);
         due("one too many", GOOD + "x", CatalogQuery.LENGTH, 0);
-        due("length 0", put(GOOD, 0, "00000"), CatalogQuery.LENGTH, 0);
-        due("length 99999", put(GOOD, 0, "99999"), CatalogQuery.LENGTH, 0);
+        due("length 0", Kit.put(GOOD, 0, "00000"), CatalogQuery.LENGTH, 0);
+        due("length 99999", Kit.put(GOOD, 0, "99999"), CatalogQuery.LENGTH, 0);
     }
 
     private static void entries() {
         for (int p = 24; p < 60; p++) {
-            due("a letter at " + p, put(GOOD, p, "x"), CatalogQuery.FORM, p);
+            due("a letter at " + p, Kit.put(GOOD, p, "x"), CatalogQuery.FORM, p);
             if (p % 12 != 0 || p == 24) {
-                due("30 at " + p, put(GOOD, p, FIELD_END), CatalogQuery.FORM, p);
+                due("30 at " + p, Kit.put(GOOD, p, FIELD_END), CatalogQuery.FORM, p);
             }
         }
-        due("30 behind the first ENTRY", put(GOOD, 36, FIELD_END), CatalogQuery.LENGTH, 12);
-        due("29 for 30", put(GOOD, 60, END), CatalogQuery.FORM, 60);
-        due("no ENTRIES", sized(GOOD.substring(0, 12) + "00025" + GOOD.substring(17, 24)
+        due("30 behind the first ENTRY", Kit.put(GOOD, 36, FIELD_END), CatalogQuery.LENGTH, 12);
+        due("29 for 30", Kit.put(GOOD, 60, END), CatalogQuery.FORM, 60);
+        due("no ENTRIES", Kit.sized(GOOD.substring(0, 12) + "00025" + GOOD.substring(17, 24)
                 + FIELD_END + END), CatalogQuery.FORM, 24);
-        due("no end of digits", sized(GOOD.substring(0, 24) + "0".repeat(100)), CatalogQuery.FORM,
-                124);
+        due("no end of digits", Kit.sized(GOOD.substring(0, 24) + "0".repeat(100)),
+                CatalogQuery.FORM, 124);
         for (String base : new String[] {"00060", "00062", "00000", "99999"}) {
-            due("BASE " + base, put(GOOD, 12, base), CatalogQuery.LENGTH, 12);
+            due("BASE " + base, Kit.put(GOOD, 12, base), CatalogQuery.LENGTH, 12);
         }
     }
 
     private static void fields() {
-        due("another first TAG", put(GOOD, 24, "002"), CatalogQuery.FIELD, 24);
-        due("a second 001", put(GOOD, 36, "001"), CatalogQuery.FIELD, 36);
-        due("a third 001", put(GOOD, 48, "001"), CatalogQuery.FIELD, 48);
-        due("first start", put(GOOD, 31, "00001"), CatalogQuery.LENGTH, 31);
-        due("second start", put(GOOD, 43, "00002"), CatalogQuery.LENGTH, 43);
-        due("third start", put(GOOD, 55, "99999"), CatalogQuery.LENGTH, 55);
-        due("first length", put(GOOD, 27, "0004"), CatalogQuery.LENGTH, 27);
-        due("second length", put(GOOD, 39, "0002"), CatalogQuery.LENGTH, 39);
-        due("third length", put(GOOD, 51, "0000"), CatalogQuery.LENGTH, 51);
+        due("another first TAG", Kit.put(GOOD, 24, "002"), CatalogQuery.FIELD, 24);
+        due("a second 001", Kit.put(GOOD, 36, "001"), CatalogQuery.FIELD, 36);
+        due("a third 001", Kit.put(GOOD, 48, "001"), CatalogQuery.FIELD, 48);
+        due("first start", Kit.put(GOOD, 31, "00001"), CatalogQuery.LENGTH, 31);
+        due("second start", Kit.put(GOOD, 43, "00002"), CatalogQuery.LENGTH, 43);
+        due("third start", Kit.put(GOOD, 55, "99999"), CatalogQuery.LENGTH, 55);
+        due("first length", Kit.put(GOOD, 27, "0004"), CatalogQuery.LENGTH, 27);
+        due("second length", Kit.put(GOOD, 39, "0002"), CatalogQuery.LENGTH, 39);
+        due("third length", Kit.put(GOOD, 51, "0000"), CatalogQuery.LENGTH, 51);
         for (int p = 61; p < GOOD.length() - 1; p++) {
-            due("7 at " + p, put(GOOD, p, '\u0007'), CatalogQuery.FORM, p);
-            due("127 at " + p, put(GOOD, p, '\u007f'), CatalogQuery.FORM, p);
-            due("29 at " + p, put(GOOD, p, END), CatalogQuery.FORM, p);
+            due("7 at " + p, Kit.put(GOOD, p, '\u0007'), CatalogQuery.FORM, p);
+            due("127 at " + p, Kit.put(GOOD, p, '\u007f'), CatalogQuery.FORM, p);
+            due("29 at " + p, Kit.put(GOOD, p, END), CatalogQuery.FORM, p);
         }
-        due("31 in 001", put(GOOD, 61, '\u001f'), CatalogQuery.FORM, 61);
-        due("30 as an INDICATOR", put(GOOD, 67, FIELD_END), CatalogQuery.FORM, 67);
-        due("30 as the second", put(GOOD, 68, FIELD_END), CatalogQuery.FORM, 68);
-        due("a letter as INDICATOR", put(GOOD, 68, "a"), CatalogQuery.FORM, 68);
-        due("30 for 31", put(GOOD, 69, FIELD_END), CatalogQuery.FORM, 69);
-        due("a letter for 31", put(GOOD, 69, "a"), CatalogQuery.FORM, 69);
+        due("31 in 001", Kit.put(GOOD, 61, '\u001f'), CatalogQuery.FORM, 61);
+        due("30 as an INDICATOR", Kit.put(GOOD, 67, FIELD_END), CatalogQuery.FORM, 67);
+        due("30 as the second", Kit.put(GOOD, 68, FIELD_END), CatalogQuery.FORM, 68);
+        due("a letter as INDICATOR", Kit.put(GOOD, 68, "a"), CatalogQuery.FORM, 68);
+        due("30 for 31", Kit.put(GOOD, 69, FIELD_END), CatalogQuery.FORM, 69);
+        due("a letter for 31", Kit.put(GOOD, 69, "a"), CatalogQuery.FORM, 69);
         for (String code : new String[] {"A", " ", "-", "\u001e", "\u001f"}) {
-            due("a CODE " + code, put(GOOD, 70, code), CatalogQuery.FORM, 70);
+            due("a CODE " + code, Kit.put(GOOD, 70, code), CatalogQuery.FORM, 70);
         }
-        due("30 too soon", put(GOOD, 73, FIELD_END), CatalogQuery.LENGTH, 51);
+        due("30 too soon", Kit.put(GOOD, 73, FIELD_END), CatalogQuery.LENGTH, 51);
         String[] can = {"001", "001 ~", "001x", "009", "01000$a", "99999$0$9", "24590$z$a$b~ "};
         for (int i = 3; i < can.length; i++) {
             due("FIELD " + can[i], Kit.marc("001x", can[i]), 0, CatalogQuery.NONE);
@@ -145,33 +132,33 @@ public final class LoadTest {
 
     private static void end() {
         int last = GOOD.length() - 1;
-        due("30 for 29", put(GOOD, last, FIELD_END), CatalogQuery.FORM, last);
-        due("29 lacks", sized(GOOD.substring(0, last)), CatalogQuery.FORM, last);
-        due("a byte behind 29", sized(GOOD + "x"), CatalogQuery.FORM, last + 1);
-        due("29 twice", sized(GOOD + END), CatalogQuery.FORM, last + 1);
+        due("30 for 29", Kit.put(GOOD, last, FIELD_END), CatalogQuery.FORM, last);
+        due("29 lacks", Kit.sized(GOOD.substring(0, last)), CatalogQuery.FORM, last);
+        due("a byte behind 29", Kit.sized(GOOD + "x"), CatalogQuery.FORM, last + 1);
+        due("29 twice", Kit.sized(GOOD + END), CatalogQuery.FORM, last + 1);
     }
 
     private static void order() {
         String wrong = GOOD;
-        wrong = put(wrong, GOOD.length() - 1, "x");
+        wrong = Kit.put(wrong, GOOD.length() - 1, "x");
         due("29", wrong, CatalogQuery.FORM, GOOD.length() - 1);
-        wrong = put(wrong, 51, "0099");
+        wrong = Kit.put(wrong, 51, "0099");
         due("a FIELD's length before", wrong, CatalogQuery.LENGTH, 51);
-        wrong = put(wrong, 70, "A");
+        wrong = Kit.put(wrong, 70, "A");
         due("its bytes before", wrong, CatalogQuery.FORM, 70);
-        wrong = put(wrong, 55, "00099");
+        wrong = Kit.put(wrong, 55, "00099");
         due("its start before", wrong, CatalogQuery.LENGTH, 55);
-        wrong = put(wrong, 48, "001");
+        wrong = Kit.put(wrong, 48, "001");
         due("its TAG before", wrong, CatalogQuery.FIELD, 48);
-        wrong = put(wrong, 39, "0099");
+        wrong = Kit.put(wrong, 39, "0099");
         due("the FIELD before it", wrong, CatalogQuery.LENGTH, 39);
-        wrong = put(wrong, 12, "00099");
+        wrong = Kit.put(wrong, 12, "00099");
         due("the BASE before", wrong, CatalogQuery.LENGTH, 12);
-        wrong = put(wrong, 40, "x");
+        wrong = Kit.put(wrong, 40, "x");
         due("the ENTRIES before", wrong, CatalogQuery.FORM, 40);
-        wrong = put(wrong, 0, "00099");
+        wrong = Kit.put(wrong, 0, "00099");
         due("the RECORD's length before", wrong, CatalogQuery.LENGTH, 0);
-        wrong = put(wrong, 23, "x");
+        wrong = Kit.put(wrong, 23, "x");
         due("the LEADER before", wrong, CatalogQuery.FORM, 23);
     }
 
@@ -185,7 +172,7 @@ public final class LoadTest {
         KIT.due("place of FULL", x.place(), 0);
         KIT.due("TWICE before FULL", Kit.load(x, Kit.marc("001n7", "005")), CatalogQuery.TWICE);
         KIT.due("place of TWICE", x.place(), 49);
-        KIT.due("FORM before TWICE", Kit.load(x, put(Kit.marc("001n7"), 9, "b")),
+        KIT.due("FORM before TWICE", Kit.load(x, Kit.put(Kit.marc("001n7"), 9, "b")),
                 CatalogQuery.FORM);
         KIT.due("drop(3)", x.drop(3) ? 1 : 0, 1);
         KIT.due("drop(6)", x.drop(6) ? 1 : 0, 1);
