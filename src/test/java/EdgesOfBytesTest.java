@@ -113,6 +113,13 @@ public final class EdgesOfBytesTest {
             KIT.due("cut of all", x.cut(0), length);
             KIT.due("none is left", x.cut(0), 0);
         }
+        for (int n = 24; n < length; n++) {
+            CatalogQuery x = fedWith(String.format("%05d", n) + SMALL.substring(5));
+            KIT.due("load() of more", x.load(), CatalogQuery.LENGTH);
+            x.cut(n);
+            KIT.due("load() of " + n + " that stay", x.load(), CatalogQuery.FORM);
+            KIT.due("those behind are gone", x.place(), n);
+        }
     }
 
     private static void cutRefuses() {

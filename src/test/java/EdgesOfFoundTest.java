@@ -15,6 +15,7 @@ public final class EdgesOfFoundTest {
         termAlone();
         datesCompared();
         joins();
+        joinsInBrackets();
         byNumbers();
         byWords();
         byDates();
@@ -141,6 +142,17 @@ public final class EdgesOfFoundTest {
                 "z not a", "", "id=* not z", "0 1 2 3", "id=* not id=*", "");
     }
 
+    private static void joinsInBrackets() {
+        KIT.sentence("CLAUSE: ( QUERY without sortby ) (at most six within one another");
+        titles("a|b|a b|c|a c", "a not (b or c)", "0", "(a not b) or c", "0 3 4", "a not b or c",
+                "0 3 4", "a or (b not b)", "0 2 4", "(a or b) not b", "0 4", "a or b not b", "0 4",
+                "a not (a not b)", "2", "(a) and (b)", "2", "(a or b) and (b or c)", "1 2 4",
+                "a or b and b or c", "1 2 3 4", "(c not (c and a)) or (b not (b and a))", "1 3",
+                "a not (a not (a not (a not (a not (a not (b))))))", "2",
+                "((((((a) and b) or c) not a) or b) not b)", "3",
+                "(a and (a and (a and (a and (a and (b))))))", "2");
+    }
+
     private static void byNumbers() {
         KIT.sentence("Without sortby RECORDS come by numbers.");
         titles("j|i|h|g|f|e|d|c|b|a", "id=*", ALL, "id any \"r9 r0 r5\"", "0 5 9", "id=r9 or id=r0",
@@ -195,6 +207,14 @@ public final class EdgesOfFoundTest {
         titles("-|-|-|-|-|-|-|-|-|-", down, ALL, "id=* sortby date/descending", ALL);
         records(List.of("260  $cnone", "260  $c1990", "500  $a1", "260  $c0000", "260  $c1990"),
                 "id=* sortby date/descending", "1 4 3 0 2");
+        CatalogQuery x = new CatalogQuery();
+        Kit.load(x, Kit.marc("001r0", "245  $ab"));
+        Kit.load(x, Kit.marc("001r1", "245  $aa"));
+        KIT.due("descending", Kit.asked(x, down), "0 1");
+        KIT.due("not descending behind it", Kit.asked(x, "id=* sortby title"), "1 0");
+        KIT.due("not sorted behind it", Kit.asked(x, "id=*"), "0 1");
+        KIT.due("descending again", Kit.asked(x, "id=* sortby id/descending"), "1 0");
+        KIT.due("not sorted again", Kit.asked(x, "id=*"), "0 1");
     }
 
     private static void found() {

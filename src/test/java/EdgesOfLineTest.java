@@ -109,6 +109,11 @@ public final class EdgesOfLineTest {
         KIT.due("many WORDS", Kit.asked(x, "any any\"" + "z ".repeat(44) + "fox\""), "0");
         KIT.due("many CLAUSES", Kit.asked(x, "\"\"or".repeat(23) + "\"\"or fox"), "0");
         KIT.due("its characters", x.erase(), 100);
+        CatalogQuery fifty = new CatalogQuery();
+        Kit.load(fifty, Kit.marc("001x", "24500$a" + "a ".repeat(49)));
+        Kit.load(fifty, Kit.marc("001y", "24500$a" + "a ".repeat(50)));
+        KIT.due("a NAME of fifty WORDS", Kit.asked(fifty, "a-".repeat(50)), "1");
+        KIT.due("one of fifty without the last", Kit.asked(fifty, "a-".repeat(49) + "b"), "");
     }
 
     private static void erase() {
@@ -129,5 +134,22 @@ public final class EdgesOfLineTest {
         KIT.due("erase()", x.erase(), 3);
         KIT.due("what was found stays", Kit.foundBy(x), "0");
         KIT.due("below() of an empty LINE", x.below(1), 1);
+        nothingIsLeftOf("date > 1000", "date > 100", "");
+        nothingIsLeftOf("title = foxes", "title = fox", "0");
+        nothingIsLeftOf("title == fox", "title =", "-2@7");
+        nothingIsLeftOf("fox and fox", "fox and", "-2@7");
+        nothingIsLeftOf("\"fox\"", "\"fox", "-2@4");
+        nothingIsLeftOf("fox sortby idx", "fox sortby id", "0");
+        nothingIsLeftOf("fox)", "fox", "0");
+    }
+
+    /** A LINE is erased, and its beginning typed: what stood behind that is gone. */
+    private static void nothingIsLeftOf(String line, String beginning, String answer) {
+        CatalogQuery x = new CatalogQuery();
+        Kit.load(x, Kit.marc("001x", "24500$afox", "26000$c1990"));
+        Kit.type(x, line);
+        x.search();
+        KIT.due("[" + beginning + "] behind [" + line + "]", Kit.asked(x, beginning), answer);
+        KIT.due("its length", x.erase(), beginning.length());
     }
 }

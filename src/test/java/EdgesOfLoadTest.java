@@ -20,6 +20,8 @@ public final class EdgesOfLoadTest {
         oneOrMoreEntries();
         digitsOfEntries();
         base();
+        partsOfAnEntry();
+        fieldsOneBehindTheOther();
         tags();
         starts();
         textFields();
@@ -170,6 +172,43 @@ public final class EdgesOfLoadTest {
                 12);
         KIT.sentence("The BASE is the place behind that.");
         taken("BASE 61", Kit.put(GOOD, 12, "00061"));
+    }
+
+    /** Every digit of a length and of a start counts, the first ones too. */
+    private static void partsOfAnEntry() {
+        KIT.sentence("a TAG of three, a length of four, a start of five; then 30.");
+        taken("length 0280", Kit.marc("001x", "245  $a" + "y".repeat(275)));
+        String far = Kit.marc("001" + "y".repeat(279), "005z");
+        taken("start 00280", far);
+        due("length 9999", Kit.put(far, ENTRY[1] + 3, "9999"), LENGTH, ENTRY[1] + 3);
+        due("length 1002", Kit.put(far, ENTRY[1] + 3, "1002"), LENGTH, ENTRY[1] + 3);
+        due("length 2000", Kit.put(far, ENTRY[1] + 3, "2000"), LENGTH, ENTRY[1] + 3);
+        due("start 99999", Kit.put(far, ENTRY[1] + 7, "99999"), LENGTH, ENTRY[1] + 7);
+        due("start 10280", Kit.put(far, ENTRY[1] + 7, "10280"), LENGTH, ENTRY[1] + 7);
+        due("start 28000", Kit.put(far, ENTRY[1] + 7, "28000"), LENGTH, ENTRY[1] + 7);
+        due("TAG 101", Kit.put(far, ENTRY[0], "101"), FIELD, ENTRY[0]);
+        due("an ENTRY of eleven", Kit.sized(far.substring(0, 47) + far.substring(48)), FORM, 47);
+        due("an ENTRY of thirteen", Kit.sized(far.substring(0, 48) + "0" + far.substring(48)),
+                FORM, 49);
+    }
+
+    private static void fieldsOneBehindTheOther() {
+        KIT.sentence("FIELDS lie there one behind the other, in the order of their ENTRIES, each at"
+                + " BASE and its start, as long as its length; behind the last one 29, the end.");
+        String bytes = Kit.marc("001a", "005bb", "009ccc");
+        String second = bytes.substring(ENTRY[1], ENTRY[2]);
+        String third = bytes.substring(ENTRY[2], 60);
+        taken("in their order", bytes);
+        due("in another order", Kit.put(Kit.put(bytes, ENTRY[1], third), ENTRY[2], second), LENGTH,
+                ENTRY[1] + 7);
+        due("the same one twice", Kit.put(bytes, ENTRY[2], second), LENGTH, ENTRY[2] + 7);
+        due("a byte between", Kit.sized(bytes.substring(0, 63) + "x" + bytes.substring(63)), LENGTH,
+                ENTRY[1] + 3);
+        due("a FIELD between", Kit.sized(bytes.substring(0, 63) + FIELD_END
+                + bytes.substring(63)), LENGTH, ENTRY[1] + 3);
+        due("a FIELD behind", Kit.sized(bytes.substring(0, 70) + FIELD_END + RECORD_END), FORM, 70);
+        due("a FIELD less", Kit.sized(bytes.substring(0, 66) + RECORD_END), FORM, 66);
+        taken("FIELDS of 30 alone", Kit.marc("001", "005", "009"));
     }
 
     private static void tags() {

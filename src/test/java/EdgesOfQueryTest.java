@@ -8,6 +8,7 @@ public final class EdgesOfQueryTest {
         joinedClauses();
         sortby();
         brackets();
+        clauses();
         quotedTerms();
         names();
         relations();
@@ -132,6 +133,23 @@ public final class EdgesOfQueryTest {
         sign("(title)=fox", 7);
         sign("(title=)fox", 7);
         sign("(fox or)", 7);
+    }
+
+    private static void clauses() {
+        KIT.sentence("or a TERM; or a NAME, a RELATION, a TERM. TERM: a NAME,");
+        reads("fox", "\"fox\"", "title = fox", "title = \"fox\"", "any = title", "title");
+        sign("title fox", 6);
+        sign("title \"fox\"", 6);
+        sign("= fox", 0);
+        sign("title =", 7);
+        sign("\"title\" = fox", 8);
+        sign("title = fox = fox", 12);
+        sign("title = title = fox", 14);
+        sign("title = fox fox", 12);
+        sign("title = fox \"fox\"", 12);
+        sign("title = /", 8);
+        sign("title = )", 8);
+        sign("title = <", 8);
     }
 
     private static void quotedTerms() {

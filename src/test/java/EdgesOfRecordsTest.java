@@ -16,17 +16,10 @@ public final class EdgesOfRecordsTest {
         octetRefuses();
         anyTexts();
         otherTexts();
+        inTheOrderOfFields();
         charactersLeftOut();
         dates();
         KIT.end();
-    }
-
-    private static CatalogQuery loaded(String... records) {
-        CatalogQuery x = new CatalogQuery();
-        for (int r = 0; r < records.length; r++) {
-            KIT.due("load", Kit.load(x, records[r]), r);
-        }
-        return x;
     }
 
     private static CatalogQuery tenLoaded() {
@@ -34,7 +27,7 @@ public final class EdgesOfRecordsTest {
         for (int r = 0; r < 10; r++) {
             records[r] = Kit.marc("001r" + r, "24500$aw" + (9 - r), "26000$c200" + r);
         }
-        return loaded(records);
+        return KIT.loaded(records);
     }
 
     private static int dropped(CatalogQuery x, int record) {
@@ -95,7 +88,7 @@ public final class EdgesOfRecordsTest {
         KIT.sentence("what = 0 how many FIELDS it has, 1 its length, 2 its DATE (NONE without), 3"
                 + " how many TEXTS of any");
         String least = Kit.marc("001");
-        CatalogQuery x = loaded(least, Kit.marc("0010", "26000$c0000$a"),
+        CatalogQuery x = KIT.loaded(least, Kit.marc("0010", "26000$c0000$a"),
                 Kit.marc("001z", "26000$c9999", "245  " + "$a".repeat(160)));
         int[][] due = {{1, 39, NONE, 0}, {2, 24 + 25 + 2 + 11 + 1, 0, 2},
             {3, 24 + 37 + 2 + 9 + 323 + 1, 9999, 161}};
@@ -104,7 +97,7 @@ public final class EdgesOfRecordsTest {
                 KIT.due("record(" + r + ", " + what + ")", x.record(r, what), due[r][what]);
             }
         }
-        KIT.due("a length of 400", loaded(Kit.marc("001" + "y".repeat(361))).record(0, 1), 400);
+        KIT.due("a length of 400", KIT.loaded(Kit.marc("001" + "y".repeat(361))).record(0, 1), 400);
         CatalogQuery ten = tenLoaded();
         KIT.due("record(0, 2)", ten.record(0, 2), 2000);
         KIT.due("record(9, 2)", ten.record(9, 2), 2009);
@@ -113,7 +106,7 @@ public final class EdgesOfRecordsTest {
     private static void recordOfNone() {
         KIT.sentence("NONE if there is no such RECORD.");
         CatalogQuery none = new CatalogQuery();
-        CatalogQuery one = loaded(Kit.marc("001x", "26000$c1990"));
+        CatalogQuery one = KIT.loaded(Kit.marc("001x", "26000$c1990"));
         CatalogQuery gone = tenLoaded();
         gone.drop(9);
         for (int what = 0; what < 4; what++) {
@@ -144,7 +137,7 @@ public final class EdgesOfRecordsTest {
         KIT.sentence("Byte k of a RECORD, made of its FIELDS anew as told above");
         String[] records = {Kit.marc("001"), Kit.marcLed("azz  ", "001 ~", "000", "01099$z9$0~ "),
             Kit.marcLed("paa a", "001" + "y".repeat(361))};
-        CatalogQuery x = loaded(records);
+        CatalogQuery x = KIT.loaded(records);
         for (int r = 0; r < records.length; r++) {
             int last = records[r].length() - 1;
             KIT.due("byte 0", x.octet(r, 0), '0');
@@ -165,7 +158,7 @@ public final class EdgesOfRecordsTest {
 
     private static void octetOfNone() {
         KIT.sentence("as told above; NONE if there is none.");
-        CatalogQuery x = loaded(Kit.marc("001"));
+        CatalogQuery x = KIT.loaded(Kit.marc("001"));
         for (int k : new int[] {-1, 39, 40, 400, Integer.MIN_VALUE, Integer.MAX_VALUE}) {
             KIT.due("octet(0, " + k + ")", x.octet(0, k), NONE);
         }
@@ -189,7 +182,8 @@ public final class EdgesOfRecordsTest {
 
     private static void dueTexts(String fields, int index, String due) {
         String[] all = ("001ID|" + fields).split("\\|");
-        KIT.due("INDEX " + index + " of " + fields, Kit.lexicon(loaded(Kit.marc(all)), index), due);
+        CatalogQuery x = KIT.loaded(Kit.marc(all));
+        KIT.due("INDEX " + index + " of " + fields, Kit.lexicon(x, index), due);
     }
 
     private static void anyTexts() {
@@ -201,8 +195,8 @@ public final class EdgesOfRecordsTest {
         dueTexts("00500|24500$at$bu$cv|10000$aw|26000$c1990|65000$as|70000$ax", 0,
                 "1990 s t u v w x");
         dueTexts("24509$ashort$bb", 0, "b short");
-        KIT.due("none has TEXTS", loaded(Kit.marc("001x", "005y")).record(0, 3), 0);
-        KIT.due("an empty one is a TEXT", loaded(Kit.marc("001x", "50000$a")).record(0, 3), 1);
+        KIT.due("none has TEXTS", KIT.loaded(Kit.marc("001x", "005y")).record(0, 3), 0);
+        KIT.due("an empty one is a TEXT", KIT.loaded(Kit.marc("001x", "50000$a")).record(0, 3), 1);
     }
 
     private static void otherTexts() {
@@ -217,7 +211,25 @@ public final class EdgesOfRecordsTest {
         dueTexts("25900$c1|26000$aa$bb$cc$dd|26100$c2", 4, "c");
         KIT.sentence("5 id: the text of 001.");
         dueTexts("000a|00200|01000$ab", 5, "id");
-        KIT.due("an empty text", Kit.lexicon(loaded(Kit.marc("001")), 5), "");
+        KIT.due("an empty text", Kit.lexicon(KIT.loaded(Kit.marc("001")), 5), "");
+    }
+
+    /** The first TEXT shows in what sortby does, the end of a TEXT in what a phrase finds. */
+    private static void inTheOrderOfFields() {
+        KIT.sentence("Those of a RECORD come in the order of its FIELDS, each as a TEXT");
+        CatalogQuery x = KIT.loaded(Kit.marc("001b", "70000$ab x$ac", "10000$aa"),
+                Kit.marc("001a", "10000$ac", "70000$aa"), Kit.marc("001d", "10000$ex$aa$ad"),
+                Kit.marc("001c", "24500$bz$ay", "10000$aa z"));
+        KIT.due("by the first author", Kit.asked(x, "id=* sortby author"), "2 3 0 1");
+        KIT.due("by the first of any", Kit.asked(x, "id=* sortby any"), "0 1 2 3");
+        KIT.due("in one TEXT", Kit.asked(x, "author = \"b x\""), "0");
+        KIT.due("in two SUBFIELDS", Kit.asked(x, "author = \"x c\""), "");
+        KIT.due("in two FIELDS", Kit.asked(x, "author = \"c a\""), "");
+        KIT.due("in two TEXTS of any", Kit.asked(x, "any = \"x a\""), "");
+        KIT.due("one TEXT whole", Kit.asked(x, "author == a"), "0 1 2");
+        KIT.due("all in several TEXTS", Kit.asked(x, "author all \"a c\""), "0 1");
+        KIT.due("TEXTS of any", x.record(0, 3), 3);
+        KIT.due("TEXTS of any", x.record(2, 3), 3);
     }
 
     private static void charactersLeftOut() {
@@ -231,6 +243,8 @@ public final class EdgesOfRecordsTest {
         dueTexts("245  $a" + text, 1, text);
         dueTexts("24594$aThe fox$bThe tail$aThe end", 1, "end fox tail the");
         dueTexts("24593$aThe fox$bThe tail", 1, "fox tail the");
+        dueTexts("24594$aThe fox$aThe end", 1, "end fox");
+        dueTexts("24594$bA tail$aThe end$aThe fox", 1, "a end fox tail");
         dueTexts("24509$a", 1, "");
         dueTexts("24501$a", 1, "");
         dueTexts("24501$aa", 1, "");
@@ -248,7 +262,7 @@ public final class EdgesOfRecordsTest {
 
     private static void dueDate(String fields, int due) {
         String[] all = ("0011111|" + fields).split("\\|");
-        KIT.due("DATE of " + fields, loaded(Kit.marc(all)).record(0, 2), due);
+        KIT.due("DATE of " + fields, KIT.loaded(Kit.marc(all)).record(0, 2), due);
     }
 
     private static void dates() {
@@ -277,6 +291,6 @@ public final class EdgesOfRecordsTest {
         dueDate("26000$a1990", NONE);
         dueDate("24500$a1990$c1990|26100$c1990|25900$c1990", NONE);
         dueDate("26004$c12345", 1234);
-        KIT.due("no FIELD of date", loaded(Kit.marc("0011990")).record(0, 2), NONE);
+        KIT.due("no FIELD of date", KIT.loaded(Kit.marc("0011990")).record(0, 2), NONE);
     }
 }

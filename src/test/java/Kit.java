@@ -154,6 +154,15 @@ final class Kit {
         return x.load();
     }
 
+    /** A new object with these RECORDS, numbered from 0 on. */
+    CatalogQuery loaded(String... records) {
+        CatalogQuery x = new CatalogQuery();
+        for (int r = 0; r < records.length; r++) {
+            due("load", load(x, records[r]), r);
+        }
+        return x;
+    }
+
     /** Puts the text in the place of THE LINE. */
     static void type(CatalogQuery x, String text) {
         x.erase();

@@ -12,16 +12,8 @@ public final class RecordsTest {
         KIT.end();
     }
 
-    private static CatalogQuery loaded(String... records) {
-        CatalogQuery x = new CatalogQuery();
-        for (int r = 0; r < records.length; r++) {
-            KIT.due("load", Kit.load(x, records[r]), r);
-        }
-        return x;
-    }
-
     private static void drop() {
-        CatalogQuery x = loaded(Kit.marc("001a", "245  $afox"), Kit.marc("001b", "245  $adog"));
+        CatalogQuery x = KIT.loaded(Kit.marc("001a", "245  $afox"), Kit.marc("001b", "245  $adog"));
         KIT.due("drop(0)", x.drop(0) ? 1 : 0, 1);
         KIT.due("drop(0) again", x.drop(0) ? 1 : 0, 0);
         KIT.due("drop(9)", x.drop(9) ? 1 : 0, 0);
@@ -35,7 +27,7 @@ public final class RecordsTest {
     }
 
     private static void foundAfterDrop() {
-        CatalogQuery x = loaded(Kit.marc("001a", "245  $az"), Kit.marc("001b", "245  $ay"),
+        CatalogQuery x = KIT.loaded(Kit.marc("001a", "245  $az"), Kit.marc("001b", "245  $ay"),
                 Kit.marc("001c", "245  $ax"));
         KIT.due("search", Kit.asked(x, "id any * sortby title"), "2 1 0");
         KIT.due("drop(1)", x.drop(1) ? 1 : 0, 1);
@@ -49,7 +41,7 @@ public final class RecordsTest {
     }
 
     private static void counts() {
-        CatalogQuery x = loaded(Kit.marc("001a"),
+        CatalogQuery x = KIT.loaded(Kit.marc("001a"),
                 Kit.marc("001b", "005$".substring(0, 3), "245  $a$b$cx$c", "999  $0"));
         KIT.due("FIELDS", x.record(0, 0), 1);
         KIT.due("length", x.record(0, 1), 40);
@@ -64,7 +56,8 @@ public final class RecordsTest {
         String[] all = new String[fields.length + 1];
         all[0] = "001x1999";
         System.arraycopy(fields, 0, all, 1, fields.length);
-        KIT.due("DATE of " + String.join(" ", fields), loaded(Kit.marc(all)).record(0, 2), date);
+        CatalogQuery x = KIT.loaded(Kit.marc(all));
+        KIT.due("DATE of " + String.join(" ", fields), x.record(0, 2), date);
     }
 
     private static void dates() {
@@ -85,7 +78,7 @@ public final class RecordsTest {
 
     private static void octets() {
         String text = Kit.marcLed("pzq  ", "00123", "245 1$athe$bx", "000abc", "26012$c");
-        CatalogQuery x = loaded(text);
+        CatalogQuery x = KIT.loaded(text);
         KIT.due("octets", Kit.octets(x, 0), text);
         KIT.due("the last one", x.octet(0, text.length() - 1), 29);
         KIT.due("behind it", x.octet(0, text.length()), -1);
@@ -99,7 +92,7 @@ public final class RecordsTest {
     }
 
     private static void wrongNumbers() {
-        CatalogQuery x = loaded(Kit.marc("001a", "245  $afox"));
+        CatalogQuery x = KIT.loaded(Kit.marc("001a", "245  $afox"));
         KIT.due("search", Kit.asked(x, "fox"), "0");
         int[] wrong = {-1, 10, Integer.MIN_VALUE, Integer.MAX_VALUE};
         for (int r : wrong) {
