@@ -1401,15 +1401,20 @@ public final class CatalogQuery {
         private void addWords(Words words, int holder) {
             for (int i = 0; i < words.size; i++) {
                 int k = countBefore(words, i);
-                if (k >= size || compareWord(k, words, i) != 0) {
+                if (compareWord(k, words, i) != 0) {
                     insert(k, words.letters, words.starts[i], words.ends[i] - words.starts[i]);
                 }
-                holders[k] |= holder;
+                if (k >= 0 && k < size) {
+                    holders[k] |= holder;
+                }
             }
         }
 
         private void insert(int k, char[] text, int from, int length) {
-            if (size == starts.length) {
+            if (k < 0 || k > size || from < 0 || length < 0 || from + length > text.length) {
+                return;
+            }
+            if (size >= starts.length) {
                 starts = Arrays.copyOf(starts, 2 * size);
                 ends = Arrays.copyOf(ends, 2 * size);
                 holders = Arrays.copyOf(holders, 2 * size);
@@ -1450,6 +1455,9 @@ public final class CatalogQuery {
         }
 
         private int compareWord(int k, Words words, int i) {
+            if (k < 0 || k >= size || i < 0 || i >= words.size) {
+                return NO_ORDER;
+            }
             return compareSpans(letters, starts[k], ends[k],
                     words.letters, words.starts[i], words.ends[i]);
         }

@@ -152,8 +152,8 @@ public final class ModelTest {
         switch (pick(8)) {
             case 0: return "\"" + someText() + "\"";
             case 1: return "\"" + pickOf(WORDS) + " " + pickOf(WORDS) + "\"";
-            case 2: return pickOf("*", "f*", "*x", "fo?", "?", "r*d", "f**s", "*o*", "?*", "\"* *\"",
-                    "\"fo* ?\"", "t?e", "19*", "*8*7", "????");
+            case 2: return pickOf("*", "f*", "*x", "fo?", "?", "r*d", "f**s", "*o*", "?*",
+                    "\"* *\"", "\"fo* ?\"", "t?e", "19*", "*8*7", "????");
             default: return pickOf(WORDS);
         }
     }
@@ -168,7 +168,8 @@ public final class ModelTest {
         String blank = pickOf("", " ", "  ");
         String signs = pickOf("=", "==", "=", "==", "<", ">", "<=", ">=");
         String index = "<>".indexOf(signs.charAt(0)) >= 0 && pick(6) > 0 ? pickOf("date", "DATE")
-                : pickOf("any", "title", "author", "subject", "date", "id", "Title", "DATE", "titel");
+                : pickOf("any", "title", "author", "subject", "date", "id", "Title", "DATE",
+                        "titel");
         String relation = pick(2) == 0 ? blank + signs + blank
                 : " " + pickOf("any", "all", "adj", "exact", "ANY", "Exact") + " ";
         return index + relation + someTerm();
@@ -186,7 +187,8 @@ public final class ModelTest {
     private String someLine() {
         boolean wide = pick(3) == 0;
         StringBuilder line = new StringBuilder(wide ? pickOf("id any *", "id=*or*", "*", "title any"
-                + " \"f* r* t* a s*\"", "any all *o*", "date >= 0", "id any *not fox") : someQuery(0));
+                + " \"f* r* t* a s*\"", "any all *o*", "date >= 0", "id any *not fox")
+                : someQuery(0));
         if (pick(wide ? 1 : 3) == 0) {
             line.append(pickOf(" sortby ", " sortBy ")).append(pickOf("title", "author", "date",
                     "date", "any", "id", "subject", "titel"));

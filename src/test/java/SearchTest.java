@@ -60,8 +60,9 @@ public final class SearchTest {
     private static void signsThatStandForOthers() {
         String[][] all = records(of("245  $afox"), of("245  $afoxes 1987"), of("245  $aof"),
                 of("245  $aabab"), of("245  $aaab aab"));
-        due(all, "fo*", "0 1", "fo?", "0", "fox*", "0 1", "fox?", "", "fox??", "1", "*", "0 1 2 3 4",
-                "title == *", "0 2 3", "title == \"* *\"", "1 4", "title == \"* * *\"", "",
+        due(all, "fo*", "0 1", "fo?", "0", "fox*", "0 1", "fox?", "", "fox??", "1", "*",
+                "0 1 2 3 4", "title == *", "0 2 3", "title == \"* *\"", "1 4",
+                "title == \"* * *\"", "",
                 "?", "", "??", "2", "*o*", "0 1 2", "*f", "2", "f*", "0 1", "f*s", "1",
                 "f*e?", "1", "**", "0 1 2 3 4", "?*", "0 1 2 3 4", "*?", "0 1 2 3 4", "f?x*", "0 1",
                 "19*", "1", "1?8?", "1", "19?", "", "a*b", "3 4", "*ab", "3 4", "ab*ab", "3",

@@ -33,7 +33,8 @@ public final class SignTest {
 
     private static void queries() {
         String[] all = {"fox", "  fox  ", "\"fox\"", "title=fox", "title = fox", "TITLE=FOX",
-            "title==fox", "title any fox", "title ANY fox", "tItLe Exact\"fox\"", "title any\"fox\"",
+            "title==fox", "title any fox", "title ANY fox", "tItLe Exact\"fox\"",
+            "title any\"fox\"",
             "fox and fox", "\"fox\"and\"fox\"", "fox AND fox", "(fox)and(fox)", "fox or dog",
             "fox Not dog", "dog or fox", "( fox )", "date>1989", "date<=1990", "date>= 1990",
             "date <1991", "any any any", "any", "all", "exact", "any all all", "any adj exact",
